@@ -1,0 +1,122 @@
+/** A ContractDesk that is spoken to in texts; an answer is a number, or the name of what was thrown. */
+final class Desk {
+    static final String ARGUMENT = "IllegalArgumentException";
+    static final String STATE = "IllegalStateException";
+
+    final ContractDesk face = new ContractDesk();
+
+    /** The word that write takes for up to eight characters, with zero bytes before them. */
+    static long word(String letters) {
+        long word = 0;
+        for (char letter : letters.toCharArray()) {
+            word = word << 8 | letter;
+        }
+        return word;
+    }
+
+    boolean text(String text) {
+        for (int from = 0; from < text.length(); from += 8) {
+            if (!face.write(word(text.substring(from, Math.min(from + 8, text.length()))))) {
+                return false;
+            }
+        }
+        return true;
+    }
+
+    private void mustText(String text) {
+        if (!text(text)) {
+            throw new AssertionError("the text was refused: " + text);
+        }
+    }
+
+    String make(boolean strict) {
+        try {
+            return String.valueOf(face.make(strict));
+        } catch (IllegalStateException e) {
+            return STATE;
+        }
+    }
+
+    String body(int interaction, String text) {
+        mustText(text);
+        try {
+            return String.valueOf(face.body(interaction));
+        } catch (IllegalArgumentException e) {
+            return ARGUMENT;
+        } catch (IllegalStateException e) {
+            return STATE;
+        }
+    }
+
+    String rule(int interaction, String text) {
+        mustText(text);
+        try {
+            return String.valueOf(face.rule(interaction));
+        } catch (IllegalArgumentException e) {
+            return ARGUMENT;
+        } catch (IllegalStateException e) {
+            return STATE;
+        }
+    }
+
+    String verify(int interaction, String text) {
+        mustText(text);
+        try {
+            return String.valueOf(face.verify(interaction));
+        } catch (IllegalArgumentException e) {
+            return ARGUMENT;
+        } catch (IllegalStateException e) {
+            return STATE;
+        }
+    }
+
+    int select(int interaction, String text) {
+        mustText(text);
+        return face.select(interaction);
+    }
+
+    String place(int k) {
+        StringBuilder place = new StringBuilder();
+        for (int i = 0; face.letter(k, i) != ContractDesk.NONE; i++) {
+            place.append((char) face.letter(k, i));
+        }
+        return place.toString();
+    }
+
+    /** All that is listed, each mismatch as its kind and place. */
+    String listing() {
+        StringBuilder all = new StringBuilder();
+        for (int k = 0; k < face.listed(); k++) {
+            all.append(k == 0 ? "" : " ").append(face.mismatch(k)).append(place(k));
+        }
+        return all.toString();
+    }
+
+    String events() {
+        StringBuilder all = new StringBuilder();
+        for (int k = 0; k < face.event(-1); k++) {
+            all.append(k == 0 ? "" : " ").append(face.event(k));
+        }
+        return all.toString();
+    }
+
+    /** A new desk with one interaction that has a body and rules. */
+    static Desk with(boolean strict, String body, String... rules) {
+        Desk desk = new Desk();
+        desk.make(strict);
+        desk.body(0, body);
+        for (int i = 0; i < rules.length; i++) {
+            if (!desk.rule(0, rules[i]).equals(String.valueOf(i))) {
+                throw new AssertionError("the rule was refused: " + rules[i]);
+            }
+        }
+        return desk;
+    }
+
+    /** What is listed when a new desk compares one body with another. */
+    static String compare(boolean strict, String expected, String actual, String... rules) {
+        Desk desk = with(strict, expected, rules);
+        desk.verify(0, actual);
+        return desk.listing();
+    }
+}
