@@ -247,7 +247,7 @@ public final class ContractDesk {
         private static final char NO_KEY = 0;
 
         private final Kind kind;
-        /** A string's letters, or a number or boolean as written: there is only one way to write it. */
+        /** A string's letters, or a word or number as written, for which there is only one way. */
         private final String letters;
         private final ArrayList<Value> parts;
         private char key;
@@ -486,18 +486,18 @@ public final class ContractDesk {
         }
 
         private static int readNumber(Cursor cursor, boolean isPattern) {
-            int step = isPattern && cursor.accept('*') ? ANY_NUMBER : readDigits(cursor, isPattern ? 1 : 2);
+            int step = isPattern && cursor.accept('*') ? ANY_NUMBER : readDigits(cursor, isPattern);
             return cursor.accept(']') ? step : NO_STEP;
         }
 
-        private static int readDigits(Cursor cursor, int most) {
+        private static int readDigits(Cursor cursor, boolean isPattern) {
             int first = cursor.peek() - '0';
             if (cursor.acceptDigits(1) == 0) {
                 return NO_STEP;
             }
             int second = cursor.peek() - '0';
             // A 0 stands alone: a digit behind it is left where the step has to end.
-            boolean goesOn = most == 2 && first != 0 && cursor.acceptDigits(1) == 1;
+            boolean goesOn = !isPattern && first != 0 && cursor.acceptDigits(1) == 1;
             return goesOn ? 10 * first + second : first;
         }
 

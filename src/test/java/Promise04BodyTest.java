@@ -68,7 +68,8 @@ public final class Promise04BodyTest {
 
     private static void equalityGoesAllTheWay(Check check) {
         String[][] pairs = {
-            {"1", "1", "equal"}, {"1", "2", ""}, {"1", "-1", ""}, {"1", "10", ""}, {"0", "null", ""},
+            {"1", "1", "equal"}, {"1", "2", ""}, {"1", "-1", ""}, {"1", "10", ""}, {"0", "-1", ""}, {"0", "1", ""},
+            {"0", "null", ""},
             {"null", "false", ""}, {"true", "true", "equal"}, {"true", "false", ""}, {"true", "\"true\"", ""},
             {"\"\"", "\"\"", "equal"}, {"\"a\"", "\"b\"", ""}, {"\"\"", "[]", ""}, {"[]", "{}", ""},
             {"null", "\"null\"", ""}, {"[1,2]", "[1,2]", "equal"}, {"[1,2]", "[2,1]", ""}, {"[1]", "[1,1]", ""},

@@ -2,6 +2,7 @@ public final class Promise08SelectTest {
     public static void main(String[] args) {
         Check check = new Check();
         patternsFit(check);
+        noDigitStandsForTwo(check);
         theHeaviestIsSelected(check);
         whatIsNoPlaceSelectsNothing(check);
         longPlacesAreRead(check);
@@ -27,6 +28,13 @@ public final class Promise08SelectTest {
             {"$.*[*].*[*].*", "$.a[1].b[2][0]"}, {"$.*.a", "$.a.b.a"}};
         for (String[] pair : others) {
             check.due(pair[0] + " for " + pair[1], selected(pair[1], pair[0] + ":t"), -1);
+        }
+    }
+
+    private static void noDigitStandsForTwo(Check check) {
+        Desk desk = Desk.with(false, "1", "$[1]:t", "$[2]:t", "$[3]:t", "$[5]:t", "$[8]:t", "$[9]:t", "$[0]:t");
+        for (int number = 10; number < 100; number++) {
+            check.due("select of $[" + number + "]", desk.select(0, "$[" + number + "]"), -1);
         }
     }
 
