@@ -2,8 +2,23 @@
 final class Desk {
     static final String ARGUMENT = "IllegalArgumentException";
     static final String STATE = "IllegalStateException";
+    static final int MAX_CALLS = 512;
 
-    final ContractDesk face = new ContractDesk();
+    private final ContractDesk face = new ContractDesk();
+    private int calls;
+
+    /** What later calls answer is free, so no test may rest on one of them. */
+    private ContractDesk face() {
+        calls++;
+        if (calls > MAX_CALLS) {
+            throw new AssertionError("a test uses a desk for more than 512 calls");
+        }
+        return face;
+    }
+
+    int callsLeft() {
+        return MAX_CALLS - calls;
+    }
 
     /** The word that write takes for up to eight characters, with zero bytes before them. */
     static long word(String letters) {
@@ -14,9 +29,14 @@ final class Desk {
         return word;
     }
 
+    boolean write(long w) {
+        return face().write(w);
+    }
+
+    /** Whether a text could be written; eight characters of it with each call. */
     boolean text(String text) {
         for (int from = 0; from < text.length(); from += 8) {
-            if (!face.write(word(text.substring(from, Math.min(from + 8, text.length()))))) {
+            if (!write(word(text.substring(from, Math.min(from + 8, text.length()))))) {
                 return false;
             }
         }
@@ -29,9 +49,21 @@ final class Desk {
         }
     }
 
+    /** How many characters there is room for; the text is longer after it was asked. */
+    int room() {
+        int room = 0;
+        while (write(word("########"))) {
+            room += 8;
+        }
+        while (write('#')) {
+            room++;
+        }
+        return room;
+    }
+
     String make(boolean strict) {
         try {
-            return String.valueOf(face.make(strict));
+            return String.valueOf(face().make(strict));
         } catch (IllegalStateException e) {
             return STATE;
         }
@@ -40,7 +72,7 @@ final class Desk {
     String body(int interaction, String text) {
         mustText(text);
         try {
-            return String.valueOf(face.body(interaction));
+            return String.valueOf(face().body(interaction));
         } catch (IllegalArgumentException e) {
             return ARGUMENT;
         } catch (IllegalStateException e) {
@@ -51,7 +83,7 @@ final class Desk {
     String rule(int interaction, String text) {
         mustText(text);
         try {
-            return String.valueOf(face.rule(interaction));
+            return String.valueOf(face().rule(interaction));
         } catch (IllegalArgumentException e) {
             return ARGUMENT;
         } catch (IllegalStateException e) {
@@ -62,7 +94,7 @@ final class Desk {
     String verify(int interaction, String text) {
         mustText(text);
         try {
-            return String.valueOf(face.verify(interaction));
+            return String.valueOf(face().verify(interaction));
         } catch (IllegalArgumentException e) {
             return ARGUMENT;
         } catch (IllegalStateException e) {
@@ -72,13 +104,37 @@ final class Desk {
 
     int select(int interaction, String text) {
         mustText(text);
-        return face.select(interaction);
+        return face().select(interaction);
+    }
+
+    boolean needs(int interaction, int state) {
+        return face().needs(interaction, state);
+    }
+
+    boolean handler(int state, int handler) {
+        return face().handler(state, handler);
+    }
+
+    int listed() {
+        return face().listed();
+    }
+
+    int mismatch(int k) {
+        return face().mismatch(k);
+    }
+
+    int letter(int k, int i) {
+        return face().letter(k, i);
+    }
+
+    int event(int k) {
+        return face().event(k);
     }
 
     String place(int k) {
         StringBuilder place = new StringBuilder();
-        for (int i = 0; face.letter(k, i) != ContractDesk.NONE; i++) {
-            place.append((char) face.letter(k, i));
+        for (int code = letter(k, 0); code != ContractDesk.NONE; code = letter(k, place.length())) {
+            place.append((char) code);
         }
         return place.toString();
     }
@@ -86,16 +142,18 @@ final class Desk {
     /** All that is listed, each mismatch as its kind and place. */
     String listing() {
         StringBuilder all = new StringBuilder();
-        for (int k = 0; k < face.listed(); k++) {
-            all.append(k == 0 ? "" : " ").append(face.mismatch(k)).append(place(k));
+        int listed = listed();
+        for (int k = 0; k < listed; k++) {
+            all.append(k == 0 ? "" : " ").append(mismatch(k)).append(place(k));
         }
         return all.toString();
     }
 
     String events() {
         StringBuilder all = new StringBuilder();
-        for (int k = 0; k < face.event(-1); k++) {
-            all.append(k == 0 ? "" : " ").append(face.event(k));
+        int count = event(-1);
+        for (int k = 0; k < count; k++) {
+            all.append(k == 0 ? "" : " ").append(event(k));
         }
         return all.toString();
     }

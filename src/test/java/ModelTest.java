@@ -108,7 +108,11 @@ public final class ModelTest {
         return answer ? 1 : 0;
     }
 
+    /** Asks nothing once the desk was used for as many calls as the document speaks of. */
     private void same(String call, LongSupplier asked, LongSupplier due) {
+        if (calls >= CALLS) {
+            return;
+        }
         calls++;
         check.due(run + calls + ": " + call, answerOf(asked), answerOf(due));
     }

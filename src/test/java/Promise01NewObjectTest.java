@@ -35,7 +35,7 @@ public final class Promise01NewObjectTest {
     private static void noStateHasAHandler(Check check) {
         for (int state = 0; state < 6; state++) {
             Desk desk = Desk.with(false, "1");
-            desk.face.needs(0, state);
+            desk.needs(0, state);
             check.due("verify without a handler", desk.verify(0, "1"), -3);
             check.due("its event", desk.events(), 10 * state + 2);
         }
@@ -43,8 +43,8 @@ public final class Promise01NewObjectTest {
 
     private static void objectsDoNotShare(Check check) {
         Desk one = Desk.with(false, "1", "$:t");
-        one.face.handler(0, 1);
-        one.face.needs(0, 0);
+        one.handler(0, 1);
+        one.needs(0, 0);
         one.verify(0, "null");
         one.text("$");
         nothingIsThere(check);

@@ -17,8 +17,8 @@ public final class Promise02WriteTest {
 
     private static void bytesComeFromTheHighestOn(Check check) {
         Desk desk = new Desk();
-        check.due("write of [\"abcde\"", desk.face.write(Desk.word("[\"abcde\"")), true);
-        check.due("write of ,null,1]", desk.face.write(Desk.word(",null,1]")), true);
+        check.due("write of [\"abcde\"", desk.write(Desk.word("[\"abcde\"")), true);
+        check.due("write of ,null,1]", desk.write(Desk.word(",null,1]")), true);
         check.due("body of both", bodyOfText(desk), 4);
         check.due("the same again", desk.body(0, "[\"abcde\",null,1]"), 4);
         check.due("another order", desk.body(0, "[\"edcba\",null,1]"), Desk.STATE);
@@ -28,16 +28,16 @@ public final class Promise02WriteTest {
         long[] words = {0x3100000000000000L, 0x0000000000000031L, 0x0000003100000000L};
         for (long word : words) {
             Desk desk = new Desk();
-            check.due("write(" + word + ")", desk.face.write(word), true);
+            check.due("write(" + word + ")", desk.write(word), true);
             check.due("body of it", bodyOfText(desk), 1);
             check.due("body of 1", desk.body(0, "1"), 1);
         }
         Desk apart = new Desk();
-        check.due("write of 1, 2, 3 apart", apart.face.write(0x0031003200000033L), true);
+        check.due("write of 1, 2, 3 apart", apart.write(0x0031003200000033L), true);
         check.due("body of it", bodyOfText(apart), 1);
         check.due("body of 123", apart.body(0, "123"), 1);
         Desk none = new Desk();
-        check.due("write(0)", none.face.write(0), true);
+        check.due("write(0)", none.write(0), true);
         check.due("body of nothing", bodyOfText(none), Desk.ARGUMENT);
     }
 
@@ -57,9 +57,9 @@ public final class Promise02WriteTest {
     private static void aRefusedWordChangesNothing(Check check) {
         Desk desk = new Desk();
         desk.text("12");
-        check.due("write of 3 and 31", desk.face.write(0x331f), false);
-        check.due("write of 127 and 3", desk.face.write(0x7f33), false);
-        check.due("write of 3 and 200", desk.face.write(0x33c8), false);
+        check.due("write of 3 and 31", desk.write(0x331f), false);
+        check.due("write of 127 and 3", desk.write(0x7f33), false);
+        check.due("write of 3 and 200", desk.write(0x33c8), false);
         check.due("body of what was there", bodyOfText(desk), 1);
         check.due("body of 12", desk.body(0, "12"), 1);
     }
@@ -69,16 +69,16 @@ public final class Promise02WriteTest {
         String full = "[" + "1,".repeat(48) + "-1]";
         Desk desk = new Desk();
         check.due("text of 100", desk.text(full), true);
-        check.due("write of one more", desk.face.write('1'), false);
-        check.due("write of none more", desk.face.write(0), true);
+        check.due("write of one more", desk.write('1'), false);
+        check.due("write of none more", desk.write(0), true);
         check.due("body of 100", bodyOfText(desk), 50);
         check.due("text of 100 after it was taken", desk.text(full), true);
         check.due("the same body", desk.body(0, ""), 50);
 
         Desk close = new Desk();
         close.text(full.substring(0, 96));
-        check.due("write of 5 where 4 fit", close.face.write(Desk.word("1,-1]")), false);
-        check.due("write of 4 where 4 fit", close.face.write(Desk.word(full.substring(96))), true);
+        check.due("write of 5 where 4 fit", close.write(Desk.word("1,-1]")), false);
+        check.due("write of 4 where 4 fit", close.write(Desk.word(full.substring(96))), true);
         check.due("body of it", bodyOfText(close), 50);
     }
 }

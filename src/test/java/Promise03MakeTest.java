@@ -22,7 +22,7 @@ public final class Promise03MakeTest {
 
     private static void aNewOneHasNoBodyRuleOrState(Check check) {
         Desk desk = Desk.with(false, "1", "$:t");
-        desk.face.needs(0, 2);
+        desk.needs(0, 2);
         desk.make(false);
         check.due("verify without a body", desk.verify(1, "1"), Desk.STATE);
         check.due("select without a rule", desk.select(1, "$"), -1);

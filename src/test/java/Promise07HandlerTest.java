@@ -13,9 +13,9 @@ public final class Promise07HandlerTest {
         for (int state = 0; state < 6; state++) {
             for (int handler = 0; handler < 4; handler++) {
                 Desk desk = Desk.with(false, "1");
-                desk.face.needs(0, state);
+                desk.needs(0, state);
                 String what = "handler(" + state + ", " + handler + ")";
-                check.due(what, desk.face.handler(state, handler), true);
+                check.due(what, desk.handler(state, handler), true);
                 check.due("verify after " + what, desk.verify(0, "1"), answers[handler]);
                 check.due("events after " + what, desk.events(), ofState(state, outcomes[handler]));
             }
@@ -32,25 +32,25 @@ public final class Promise07HandlerTest {
 
     private static void theLatestCounts(Check check) {
         Desk desk = Desk.with(false, "1");
-        desk.face.needs(0, 4);
-        check.due("handler(4, 1)", desk.face.handler(4, 1), true);
-        check.due("handler(4, 1) again", desk.face.handler(4, 1), true);
+        desk.needs(0, 4);
+        check.due("handler(4, 1)", desk.handler(4, 1), true);
+        check.due("handler(4, 1) again", desk.handler(4, 1), true);
         check.due("verify", desk.verify(0, "1"), 0);
-        check.due("handler(4, 3)", desk.face.handler(4, 3), true);
+        check.due("handler(4, 3)", desk.handler(4, 3), true);
         check.due("verify", desk.verify(0, "1"), 0);
-        check.due("handler(4, 0)", desk.face.handler(4, 0), true);
+        check.due("handler(4, 0)", desk.handler(4, 0), true);
         check.due("verify", desk.verify(0, "1"), -3);
         check.due("events", desk.events(), "40 41 40 43 42");
     }
 
     private static void wrongNumbersAreRefused(Check check) {
         Desk desk = Desk.with(false, "1");
-        desk.face.needs(0, 0);
-        desk.face.handler(0, 1);
+        desk.needs(0, 0);
+        desk.handler(0, 1);
         int[][] wrong = {{-1, 1}, {6, 1}, {6, 0}, {0, -1}, {0, 4}, {-1, -1}, {Integer.MIN_VALUE, 2},
             {Integer.MAX_VALUE, 2}, {0, Integer.MIN_VALUE}, {0, Integer.MAX_VALUE}};
         for (int[] pair : wrong) {
-            check.due("handler(" + pair[0] + ", " + pair[1] + ")", desk.face.handler(pair[0], pair[1]), false);
+            check.due("handler(" + pair[0] + ", " + pair[1] + ")", desk.handler(pair[0], pair[1]), false);
         }
         check.due("verify", desk.verify(0, "1"), 0);
         check.due("events", desk.events(), "0 1");

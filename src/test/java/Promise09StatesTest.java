@@ -21,8 +21,8 @@ public final class Promise09StatesTest {
             int[] handlers = {code / 16, code / 4 % 4, code % 4};
             Desk desk = Desk.with(false, "1");
             for (int i = 0; i < 3; i++) {
-                desk.face.needs(0, states[i]);
-                desk.face.handler(states[i], handlers[i]);
+                desk.needs(0, states[i]);
+                desk.handler(states[i], handlers[i]);
             }
             String told = "handlers " + handlers[0] + handlers[1] + handlers[2];
             boolean allGood = isGood(handlers[0]) && isGood(handlers[1]) && isGood(handlers[2]);
@@ -48,10 +48,10 @@ public final class Promise09StatesTest {
     private static void aFailureKeepsTheListing(Check check) {
         Desk desk = Desk.with(false, "[1,2]");
         check.due("verify", desk.verify(0, "[2,1]"), 2);
-        desk.face.needs(0, 1);
+        desk.needs(0, 1);
         check.due("verify that fails", desk.verify(0, "null"), -3);
         check.due("listed is what was", desk.listing(), "1$[0] 1$[1]");
-        desk.face.handler(1, 3);
+        desk.handler(1, 3);
         check.due("verify that matches", desk.verify(0, "[1,2]"), 0);
         check.due("listed is nothing", desk.listing(), "");
         check.due("events", desk.events(), "12 10 13");
@@ -59,8 +59,8 @@ public final class Promise09StatesTest {
 
     private static void statesGoBeforeTheMismatches(Check check) {
         Desk desk = Desk.with(false, "1");
-        desk.face.needs(0, 2);
-        desk.face.handler(2, 2);
+        desk.needs(0, 2);
+        desk.handler(2, 2);
         check.due("a body that would match", desk.verify(0, "1"), -3);
         check.due("a body that would not", desk.verify(0, "2"), -3);
         check.due("events", desk.events(), "22 22");

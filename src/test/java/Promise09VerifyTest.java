@@ -101,26 +101,26 @@ public final class Promise09VerifyTest {
     private static void manyMismatches(Check check) {
         Desk desk = Desk.with(false, "[" + "1,".repeat(48) + "1]");
         check.due("49 of 49", desk.verify(0, "[" + "2,".repeat(48) + "2]"), 49);
-        check.due("listed", desk.face.listed(), 30);
+        check.due("listed", desk.listed(), 30);
         check.due("the last listed", desk.place(29), "$[29]");
-        check.due("no more", desk.face.mismatch(30), -1);
+        check.due("no more", desk.mismatch(30), -1);
         check.due("30 of 30", desk.verify(0, "[" + "2,".repeat(30) + "1,".repeat(18) + "1]"), 30);
-        check.due("listed", desk.face.listed(), 30);
+        check.due("listed", desk.listed(), 30);
 
         String wide = "[{" + String.join(",", "\"a\":1", "\"b\":1", "\"c\":1", "\"d\":1", "\"e\":1", "\"f\":1", "\"g\":1",
                 "\"h\":1", "\"i\":1", "\"j\":1", "\"k\":1", "\"l\":1", "\"m\":1", "\"n\":1", "\"o\":1", "\"p\":1") + "}]";
         Desk loose = Desk.with(false, wide, "$:t");
         check.due("16 missing in each of 33", loose.verify(0, "[" + "{},".repeat(32) + "{}]"), 528);
-        check.due("listed", loose.face.listed(), 30);
+        check.due("listed", loose.listed(), 30);
         check.due("the last listed", loose.place(29), "$[1].n");
     }
 
     private static void whatIsThrown(Check check) {
         Desk desk = Desk.with(false, "1");
         desk.make(false);
-        desk.face.needs(0, 0);
-        desk.face.needs(1, 0);
-        desk.face.handler(0, 1);
+        desk.needs(0, 0);
+        desk.needs(1, 0);
+        desk.handler(0, 1);
         check.due("a mismatch", desk.verify(0, "2"), 1);
         String before = desk.events();
         check.due("no value", desk.verify(0, "x"), Desk.ARGUMENT);
@@ -146,7 +146,7 @@ public final class Promise09VerifyTest {
         desk.make(false);
         check.due("no body", desk.verify(1, "1"), Desk.STATE);
         check.due("nothing is left of this either", desk.verify(0, "2"), 1);
-        desk.face.needs(0, 0);
+        desk.needs(0, 0);
         check.due("a state fails", desk.verify(0, "1"), -3);
         check.due("nothing is left there too", desk.body(0, ""), Desk.ARGUMENT);
     }
