@@ -12,9 +12,8 @@ final class BodySentences {
     private static void valuesAreCounted(Sentences due) {
         due.by("Takes the text as the expected body of an interaction: how many values it consists of.");
         String[][] counts = {{"null", "1"}, {"99999", "1"}, {"\"abcdefghijkl\"", "1"}, {"[]", "1"}, {"{}", "1"},
-            {"[[]]", "2"},
-            {"[1,2]", "3"}, {"{\"a\":1}", "2"}, {"{\"a\":{},\"b\":[]}", "3"}, {"[[[[[]]]]]", "5"}, {"[[[[[1]]]]]", "6"},
-            {"[[1,2],[3],{\"a\":[4]}]", "9"}, {"[" + "1,".repeat(48) + "1]", "50"}};
+            {"[[]]", "2"}, {"[1,2]", "3"}, {"{\"a\":1}", "2"}, {"{\"a\":{},\"b\":[]}", "3"}, {"[[[[[]]]]]", "5"},
+            {"[[[[[1]]]]]", "6"}, {"[[1,2],[3],{\"a\":[4]}]", "9"}, {"[" + "1,".repeat(48) + "1]", "50"}};
         for (String[] pair : counts) {
             Desk desk = new Desk();
             desk.make(false);

@@ -67,19 +67,23 @@ final class ObjectSentences {
     }
 
     private static void asManyEventsAsCanBe(Sentences due) {
+        due.due("how many events after 511 calls", withAllEvents().event(-1), 1506);
+        due.due("the first of them", withAllEvents().event(0), 0);
+        due.due("the last of them", withAllEvents().event(1505), 3);
+        due.due("one behind it", withAllEvents().event(1506), -1);
+    }
+
+    /** A desk with one call left, the other ones of which led to as many events as calls can. */
+    private static Desk withAllEvents() {
         Desk desk = Desk.with(false, "1");
         for (int state = 0; state < 3; state++) {
             desk.needs(0, state);
             desk.handler(state, 3);
         }
-        int events = 0;
-        while (desk.callsLeft() > 3) {
+        while (desk.callsLeft() > 1) {
             desk.verify(0, "1");
-            events += 6;
         }
-        due.due("how many events after 509 calls", desk.event(-1), events);
-        due.due("the last of them", desk.event(events - 1), 3);
-        due.due("one behind it", desk.event(events), -1);
+        return desk;
     }
 
     private static void whatThrowsChangesNothing(Sentences due) {

@@ -17,16 +17,13 @@ final class PlaceSentences {
         due.by("A PLACE in a value is a row of STEPS, each a key or a number (an element, from 0 on): $ alone is the "
                 + "whole value; it is written $, and then for each step a period and the key, or [, the number, ].");
         String[] places = {"$", "$.a", "$.z", "$[0]", "$[9]", "$[10]", "$.a.b", "$[0].a", "$.a[0]", "$[0][0]",
-            "$[0].a[0].a[0]",
-            "$.a[1].b[22].c", "$[0][0][0][0][0]", "$.a.b.c.d.e"};
+            "$[0].a[0].a[0]", "$.a[1].b[22].c", "$[0][0][0][0][0]", "$.a.b.c.d.e"};
         for (String place : places) {
             isPlace(due, place, true);
         }
         String[] others = {"", ".", "a", ".a", "[0]", "$$", "$.", "$a", "$0", "$[", "$]", "$[]", "$[0", "$0]", "$.a.",
-            "$..a", "$.a$",
-            "$.ab", "$.A", "$.*", "$[*]", "$.\"a\"", "$[a]", "$.0", "$[0]]", "$[[0]]", "$[0]a", "$.a0", "$(0)", "$ ",
-            " $", "$. a",
-            "$[ 0]", "$[0 ]", "$:t", "$.a:t"};
+            "$..a", "$.a$", "$.ab", "$.A", "$.*", "$[*]", "$.\"a\"", "$[a]", "$.0", "$[0]]", "$[[0]]", "$[0]a", "$.a0",
+            "$(0)", "$ ", " $", "$. a", "$[ 0]", "$[0 ]", "$:t", "$.a:t"};
         for (String other : others) {
             isPlace(due, other, false);
         }

@@ -43,13 +43,10 @@ final class RuleSentences {
         due.by("A RULE is a PATTERN, a colon, and one or more MATCHERS with signs between, which are all & (each has "
                 + "to hold) or all | (one has to hold).");
         areRules(due, "$:t", "$:t&i", "$:t|i", "$:t&i&0", "$:t|i|0", "$:" + "t&".repeat(48) + "t",
-                "$:" + "t|".repeat(48) + "t",
-                "$:t&=&0&i&>1&<1&~a&/a/", "$:/a/|~a|<1|>1|i|0|=|t");
+                "$:" + "t|".repeat(48) + "t", "$:t&=&0&i&>1&<1&~a&/a/", "$:/a/|~a|<1|>1|i|0|=|t");
         areNone(due, "", "$", "$:", ":t", "t", "$t", "$::t", "$:t:t", "$;t", "$:&", "$:|", "$:&t", "$:|t", "$:t&",
-                "$:t|", "$:tt",
-                "$:t&&t", "$:t||t", "$:t&|t", "$:t|i&0", "$:t&i|0", "$:t|i|0&=", "$:t&i&0|=", "$:t,i", "$:t+i", "$: t",
-                "$ :t",
-                " $:t", "$:t ", "$:t &i", "$:" + "t&".repeat(49), "$:" + "t|".repeat(49));
+                "$:t|", "$:tt", "$:t&&t", "$:t||t", "$:t&|t", "$:t|i&0", "$:t&i|0", "$:t|i|0&=", "$:t&i&0|=", "$:t,i",
+                "$:t+i", "$: t", "$ :t", " $:t", "$:t ", "$:t &i", "$:" + "t&".repeat(49), "$:" + "t|".repeat(49));
         for (char c = 32; c < 127; c++) {
             isRule(due, "$:" + c, c == 't' || c == '=' || c == '0' || c == 'i');
             isRule(due, "$:t" + c + "i", c == '&' || c == '|');
@@ -91,9 +88,8 @@ final class RuleSentences {
             isRule(due, "$.*" + c + ":t", false);
         }
         areNone(due, "$[10]:t", "$[99]:t", "$[00]:t", "$[01]:t", "$[-1]:t", "$[]:t", "$.:t", "$..a:t", "$.a.:t",
-                "$[1:t", "$1]:t",
-                "$[[1]]:t", "$[1]]:t", "$*:t", "$**:t", "$.[1]:t", "$[.a]:t", "$[a]:t", "$.1:t", "$.\"a\":t", "a:t",
-                ".a:t");
+                "$[1:t", "$1]:t", "$[[1]]:t", "$[1]]:t", "$*:t", "$**:t", "$.[1]:t", "$[.a]:t", "$[a]:t", "$.1:t",
+                "$.\"a\":t", "a:t", ".a:t");
     }
 
     private static void patternsFit(Sentences due) {

@@ -40,13 +40,12 @@ final class TextSentences {
     private static void takenWhateverIsAnswered(Sentences due) {
         due.by("a call that TAKES it uses it and makes it empty, whatever it answers or throws.");
         String[][] calls = {{"body", "0", "1", "1"}, {"body", "1", "1", "1"}, {"body", "9", "1", Desk.ARGUMENT},
-            {"body", "0", "?", Desk.ARGUMENT}, {"body", "0", "2", Desk.STATE},
-            {"rule", "1", "$:t", "0"}, {"rule", "9", "$:t", Desk.ARGUMENT}, {"rule", "0", "?", Desk.ARGUMENT},
-            {"rule", "0", "$:t", Desk.STATE},
-            {"select", "0", "$.a", "0"}, {"select", "9", "$.a", "-1"}, {"select", "0", "?", "-1"}, {"select", "1", "$",
-            "-1"},
-            {"verify", "0", "1", "0"}, {"verify", "0", "2", "1"}, {"verify", "9", "1", Desk.ARGUMENT},
-            {"verify", "0", "?", Desk.ARGUMENT}, {"verify", "1", "1", Desk.STATE}, {"verify", "2", "1", "-3"}};
+            {"body", "0", "?", Desk.ARGUMENT}, {"body", "0", "2", Desk.STATE}, {"rule", "1", "$:t", "0"},
+            {"rule", "9", "$:t", Desk.ARGUMENT}, {"rule", "0", "?", Desk.ARGUMENT}, {"rule", "0", "$:t", Desk.STATE},
+            {"select", "0", "$.a", "0"}, {"select", "9", "$.a", "-1"}, {"select", "0", "?", "-1"},
+            {"select", "1", "$", "-1"}, {"verify", "0", "1", "0"}, {"verify", "0", "2", "1"},
+            {"verify", "9", "1", Desk.ARGUMENT}, {"verify", "0", "?", Desk.ARGUMENT}, {"verify", "1", "1", Desk.STATE},
+            {"verify", "2", "1", "-3"}};
         for (String[] call : calls) {
             Desk desk = threeInteractions();
             String what = call[0] + "(" + call[1] + ") of " + call[2];
