@@ -1,39 +1,46 @@
+import java.io.IOException;
 import java.lang.reflect.Constructor;
 import java.lang.reflect.Field;
 import java.lang.reflect.Method;
 import java.lang.reflect.Modifier;
+import java.nio.file.Files;
+import java.nio.file.Path;
 import java.util.Set;
 import java.util.TreeSet;
+import java.util.regex.MatchResult;
+import java.util.regex.Matcher;
+import java.util.regex.Pattern;
+import java.util.stream.Collectors;
 
 /** The class has the document's face and no other member that is not private. */
 public final class FaceTest {
-    private static final String ARGUMENT = " throws java.lang.IllegalArgumentException";
-    private static final String BOTH = ARGUMENT + ",java.lang.IllegalStateException";
-    private static final String[] METHODS = {
-        "public boolean ContractDesk.write(long)",
-        "public int ContractDesk.make(boolean) throws java.lang.IllegalStateException",
-        "public int ContractDesk.body(int)" + BOTH,
-        "public int ContractDesk.rule(int)" + BOTH,
-        "public boolean ContractDesk.needs(int,int)",
-        "public boolean ContractDesk.handler(int,int)",
-        "public int ContractDesk.select(int)",
-        "public int ContractDesk.verify(int)" + BOTH,
-        "public int ContractDesk.listed()",
-        "public int ContractDesk.mismatch(int)",
-        "public int ContractDesk.letter(int,int)",
-        "public int ContractDesk.event(int)",
-    };
+    private static final Path DOCUMENT = Path.of("../shared/DOC.md");
+    private static final Pattern SHOWN = Pattern.compile("(?s)```java\n(.*?)```");
+    private static final Pattern METHOD = Pattern.compile("(?m)^    (public \\w+) (\\w+\\(.*?\\).*);$");
 
-    public static void main(String[] args) {
+    public static void main(String[] args) throws IOException {
         Check check = new Check();
         check.due("the class's modifiers", Modifier.toString(ContractDesk.class.getModifiers()), "public final");
-        methods(check);
+        methods(check, documentsMethods());
         constructorsAndFields(check);
         classesInside(check);
         check.finish();
     }
 
-    private static void methods(Check check) {
+    /** The methods as the document shows them, in the way in which Java writes them out. */
+    private static Set<String> documentsMethods() throws IOException {
+        Matcher shown = SHOWN.matcher(Files.readString(DOCUMENT));
+        String face = shown.find() ? shown.group(1) : "";
+        return METHOD.matcher(face).results().map(FaceTest::withoutNames).collect(Collectors.toCollection(TreeSet::new));
+    }
+
+    private static String withoutNames(MatchResult method) {
+        return method.group(1) + " ContractDesk." + method.group(2)
+                .replaceAll("(int|long|boolean) \\w+", "$1").replace(", ", ",")
+                .replaceAll("(Illegal\\w+)", "java.lang.$1");
+    }
+
+    private static void methods(Check check, Set<String> documents) {
         Set<String> shown = new TreeSet<>();
         Set<String> shownNames = new TreeSet<>();
         Set<String> hiddenNames = new TreeSet<>();
@@ -45,7 +52,8 @@ public final class FaceTest {
                 shownNames.add(method.getName());
             }
         }
-        check.due("the methods", shown, new TreeSet<>(Set.of(METHODS)));
+        check.due("how many methods the document shows", documents.size(), 12);
+        check.due("the methods", shown, documents);
         hiddenNames.retainAll(shownNames);
         check.due("private methods with a public one's name", hiddenNames, "[]");
     }
